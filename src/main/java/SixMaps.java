@@ -526,7 +526,7 @@ public final class SixMaps {
             Arrays.fill(changed, 0);
             isle.clear();
             toNext();
-            while (at < length) {
+            for (int clauses = 0; clauses < TEXT_MOST && at < length; clauses++) {
                 int fault = readClause(isle);
                 if (fault != 0) {
                     return fault;
@@ -860,10 +860,9 @@ public final class SixMaps {
             collect();
         }
 
-        /** For the BAND that was weighed last; the SETS that are left in the rows are those of the last try. */
+        /** For the BAND that was weighed last. The rows keep the last try, but of a MAP only what is KNOWN is read. */
         int leftAtWorst(int c, int k) {
             int knownOfMap = known[c];
-            int tried = c * MARKS_MOST + k;
             int most = leftWith(c, k, FAR_OFF, FAR_OFF);
             for (int m = 0; m < BANDS; m++) {
                 if (m != c && isIn(known[m], k) && !isTriedAlready(m, c, k)) {
@@ -872,8 +871,6 @@ public final class SixMaps {
                 }
             }
             known[c] = knownOfMap;
-            mapX[tried] = isle.mapX[tried];
-            mapY[tried] = isle.mapY[tried];
             return most;
         }
 

@@ -224,9 +224,14 @@ public final class ModelTests {
     private void digSomewhere(int a, int b) {
         int x = place();
         int y = place();
+        int set = model.may(b, upTo(4));
         if (upTo(3) > 0 && model.best(b, 0) >= NOWHERE_LEAST) {
             x = model.best(b, 0);
             y = model.best(b, 1);
+        } else if (upTo(3) > 0 && set >= 0) {
+            // An end of an area that is no place: a spade there fells nothing.
+            x = model.area(b, set, upTo(2));
+            y = model.area(b, set, 2 + upTo(2));
         }
         same("dig(" + a + ", " + x + ", " + y + ")", maps.dig(a, x, y), model.dig(a, x, y));
     }

@@ -30,6 +30,7 @@ public final class PromiseTests {
         may();
         mayByQuarrels();
         mayByPlaces();
+        mayBySpades();
         sure();
         area();
         best();
@@ -474,6 +475,40 @@ public final class PromiseTests {
         due("loose: sure(2, 1), apart", y.sure(2, 1), 60);
     }
 
+    private static void mayBySpades() {
+        String[] goals = {"0 1 2", "1 0 2", "1 2 0"};
+        for (String goal : goals) {
+            spadesAtLooseEnds(goal, "");
+            spadesAtLooseEnds(goal, "err 1 0 10 9;err 2 0 8 9;");
+            spadesAtLooseEnds(goal, "err 1 0 9 10;err 2 0 9 8;");
+        }
+        // A spade fells by X and Y, not by one of both.
+        SixMaps y = Check.told(ONE);
+        y.show(2, 0, 0);
+        y.dig(5, 9, 8);
+        y.dig(5, 8, 9);
+        due("by spades: may(0, -1), beside", y.may(0, -1), 9);
+        y.dig(5, 9, 9);
+        due("by spades: may(0, -1), there", y.may(0, -1), 5);
+    }
+
+    /** For band 0 marks 1 and 2 are one place, mark 0 is not: no spade at the ends of where they lead fells anything. */
+    private static void spadesAtLooseEnds(String goal, String errs) {
+        SixMaps x = Check.told("within 1;mark 40 40;mark 20 20;mark 30 30;goal " + goal + ";" + errs
+                + "err 1 1 10 10;err 2 1 8 8;err 1 2 10 10;err 2 2 8 8;");
+        for (int m = 1; m < 3; m++) {
+            x.show(m, 0, 0);
+            x.show(m, 0, 1);
+            x.show(m, 0, 2);
+        }
+        String of = "loose ends of " + goal + ", " + errs;
+        Check.holds(of + " are two", x.area(0, 0, 0) < x.area(0, 0, 1) || x.area(0, 0, 2) < x.area(0, 0, 3));
+        for (int i = 0; i < 4; i++) {
+            due(of + ", dig", x.dig(1, x.area(0, 0, i / 2), x.area(0, 0, 2 + i % 2)), 0);
+            due(of + ", may(0, -1)", x.may(0, -1), 1);
+        }
+    }
+
     private static void sure() {
         SixMaps x = Check.told(THREE);
         due("sure(0, 0)", x.sure(0, 0), 0);
@@ -539,6 +574,7 @@ public final class PromiseTests {
         z.show(2, 0, 0);
         due("like in X: best(0, 0)", z.best(0, 0), 5);
         due("like in X: best(0, 1)", z.best(0, 1), 1);
+        due("like in X: best(0, 2)", z.best(0, 2), 4);
         due("dear: best(0, 3)", z.best(0, 3), -999);
         SixMaps loose = Check.told(LOOSE);
         for (int what = 0; what < 4; what++) {
@@ -828,5 +864,26 @@ public final class PromiseTests {
         due("back again: told(9)", x.told(9), 2);
         due("back again: told(11)", x.told(11), NONE);
         due("back again: seed", x.seed(1), 99);
+        spadesOfImages();
+    }
+
+    /** Two images with one spade each, where the one fells sets and the other does not. */
+    private static void spadesOfImages() {
+        SixMaps x = Check.told(ONE);
+        x.show(2, 0, 0);
+        x.keep(0);
+        x.dig(0, 9, 9);
+        x.keep(1);
+        x.goBack(0);
+        due("spades of images: none", x.may(0, -1), 9);
+        x.dig(0, 0, 9);
+        due("spades of images: 0 9", x.may(0, -1), 9);
+        x.goBack(1);
+        due("spades of images: 9 9", x.may(0, -1), 5);
+        x.goBack(0);
+        x.dig(0, 9, 0);
+        due("spades of images: 9 0", x.may(0, -1), 9);
+        x.goBack(1);
+        due("spades of images: 9 9 again", x.may(0, -1), 5);
     }
 }
