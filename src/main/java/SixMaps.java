@@ -981,8 +981,8 @@ public final class SixMaps {
             if (Integer.bitCount(set) < 2) {
                 return 0;
             }
-            int m = Integer.numberOfTrailingZeros(set);
-            int n = Integer.numberOfTrailingZeros(set & ~(1 << m));
+            int m = lowestOf(set);
+            int n = lowestOf(set & ~(1 << m));
             int marks = 0;
             for (int k = 0; k < isle.marks; k++) {
                 if (!isIn(narrowed, k) && isIn(known[m], k) && isIn(known[n], k) && areApart(m, n, k)) {
@@ -990,6 +990,11 @@ public final class SixMaps {
                 }
             }
             return marks;
+        }
+
+        /** The bits below the lowest one are as many as its number; of a SET that is not empty. */
+        static int lowestOf(int set) {
+            return Integer.bitCount((set & -set) - 1);
         }
 
         boolean areApart(int m, int n, int k) {

@@ -86,7 +86,7 @@ public final class LanguageTests {
         String code = source.replaceAll("(?s)/\\*.*?\\*/", "").replaceAll("//.*", "").replaceAll("\"[^\"]*\"", "\"\"");
         String[] refused = {"\\bthrow\\b", "\\bthrows\\b", "\\btry\\b", "\\bcatch\\b", "\\bfinally\\b", "\\bsynchronized\\b", "\\bassert\\b",
             "->", "::", "@", "\\bpackage\\b", "\\bprotected\\b", "Exact\\b", "\\bThread\\b", "\\bSystem\\.(?!arraycopy)", "\\bRandom\\b",
-            "\\bprintln\\b", "\\binterface\\b.*\\bdefault\\b", "\\bnull\\b", "\\bInteger\\.(?!bitCount|numberOfTrailingZeros)",
+            "\\bprintln\\b", "\\binterface\\b.*\\bdefault\\b", "\\bnull\\b", "\\bInteger\\.(?!bitCount)",
             "\\bMath\\.(?!max|min|abs)", "\\bArrays\\.(?!fill)", "\\bstatic\\s*\\{"};
         for (String word : refused) {
             Matcher m = Pattern.compile(word).matcher(code);
