@@ -202,6 +202,10 @@ public final class SixMaps {
         if (set < 0 || set > SET_MOST || what < 0 || what >= ENDS) {
             return OUTSIDE;
         }
+        // The empty SET MAY LIE without MARKS, but as with leads() nothing leads anywhere then.
+        if (isle.marks == 0) {
+            return NOT;
+        }
         judge.weigh(isle, now, b);
         int i = judge.indexOf(set);
         return i == NONE ? NOT : judge.ends[i * ENDS + what];

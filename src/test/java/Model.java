@@ -533,7 +533,7 @@ final class Model {
         if (out(set, 0, 63) || out(what, 0, 3)) {
             return OUTSIDE;
         }
-        return sets(b).contains(set) ? areaEnds(b, set)[what] : NOT;
+        return isle.marks.isEmpty() || !sets(b).contains(set) ? NOT : areaEnds(b, set)[what];
     }
 
     // ---- at best

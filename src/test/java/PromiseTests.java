@@ -78,7 +78,7 @@ public final class PromiseTests {
         due("new: knows(0, 0)", x.knows(0, 0), 0);
         due("new: may(5, -1)", x.may(5, -1), 1);
         due("new: sure(0, 1)", x.sure(0, 1), 63);
-        due("new: area(0, 0, 1)", x.area(0, 0, 1), 198);
+        due("new: area(0, 0, 1)", x.area(0, 0, 1), NOT);
         due("new: bestCorner(0, 0)", x.bestCorner(0, 0), NONE);
         due("new: found(3)", x.found(3), 0);
         due("new: seed(0)", x.seed(0), 0);
@@ -552,6 +552,30 @@ public final class PromiseTests {
         due("area(0, -1, 0)", x.area(0, -1, 0), OUTSIDE);
         due("area(0, 3, 4)", x.area(0, 3, 4), OUTSIDE);
         due("area(0, 1, -1)", x.area(0, 1, -1), OUTSIDE);
+        areaWithoutMarks("new", new SixMaps());
+        areaWithoutMarks("empty text", Check.told(""));
+        areaWithoutMarks("no mark in the text", Check.told("within 3; spade 2; prize 7;"));
+        due("marks are gone: island()", x.island(), 0);
+        areaWithoutMarks("marks are gone", x);
+        Check.feed(x, "mark 4 5;");
+        due("one mark: island()", x.island(), 1);
+        due("one mark: area(0, 0, 0)", x.area(0, 0, 0), 4);
+        due("one mark: area(5, 0, 3)", x.area(5, 0, 3), 5);
+    }
+
+    /** The empty SET MAY LIE then, yet nothing leads anywhere. */
+    private static void areaWithoutMarks(String of, SixMaps x) {
+        due(of + ": may(0, 0)", x.may(0, 0), 0);
+        for (int what = 0; what < 4; what++) {
+            due(of + ": area(0, 0, " + what + ")", x.area(0, 0, what), NOT);
+            due(of + ": leads(0, " + what + ")", x.leads(0, what), NOT);
+            due(of + ": area(5, 63, " + what + ")", x.area(5, 63, what), NOT);
+        }
+        due(of + ": area(6, 0, 0)", x.area(6, 0, 0), UNKNOWN);
+        due(of + ": area(0, 64, 0)", x.area(0, 64, 0), OUTSIDE);
+        due(of + ": area(0, 0, 4)", x.area(0, 0, 4), OUTSIDE);
+        due(of + ": best(0, 0)", x.best(0, 0), NONE);
+        due(of + ": spades(0)", x.spades(0), NONE);
     }
 
     private static void best() {
