@@ -1,7 +1,12 @@
+import java.util.Set;
+import java.util.TreeSet;
+
 /** Counts and prints the answers that are not as due. */
 final class Check {
     private static int wrong = 0;
     private static int asked = 0;
+    private static String sentence = "";
+    private static final Set<String> PARTS = new TreeSet<>();
 
     private Check() {
     }
@@ -10,7 +15,7 @@ final class Check {
         asked++;
         if (got != want) {
             wrong++;
-            System.out.println(call + " answered " + got + ", due is " + want);
+            System.out.println(sentence + call + " answered " + got + ", due is " + want);
         }
     }
 
@@ -18,7 +23,28 @@ final class Check {
         asked++;
         if (!so) {
             wrong++;
-            System.out.println("does not hold: " + what);
+            System.out.println(sentence + "does not hold: " + what);
+        }
+    }
+
+    /** What comes now is due by these words of the document; words that it does not say are a wrong answer, too. */
+    static void by(String part, String words) {
+        sentence = "";
+        holds(part + " says '" + words + "'", Doc.says(part, words));
+        sentence = part + ", '" + words + "': ";
+        PARTS.add(part);
+    }
+
+    static void spokenOf(String... parts) {
+        sentence = "";
+        for (String part : parts) {
+            holds("there is a test of " + part, PARTS.contains(part));
+        }
+    }
+
+    static void spokenOfPromises(int from, int to) {
+        for (int i = from; i <= to; i++) {
+            spokenOf("Promise " + i);
         }
     }
 
@@ -52,6 +78,25 @@ final class Check {
         feed(maps, text);
         int answer = maps.island();
         holds("the text has no fault: " + text, answer >= 0);
+        return maps;
+    }
+
+    /** A text whose FAULT is at the sign '^', which is not of the text. */
+    static SixMaps fault(String marked, int number) {
+        int at = marked.indexOf('^');
+        String text = marked.replace("^", "");
+        SixMaps maps = new SixMaps();
+        feed(maps, text);
+        due("island() of '" + marked + "'", maps.island(), -10 - number);
+        due("fault() of '" + marked + "'", maps.fault(), at);
+        return maps;
+    }
+
+    static SixMaps fine(String text, int marks) {
+        SixMaps maps = new SixMaps();
+        feed(maps, text);
+        due("island() of '" + text + "'", maps.island(), marks);
+        due("fault() of '" + text + "'", maps.fault(), -1);
         return maps;
     }
 }
