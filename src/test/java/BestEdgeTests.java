@@ -1,3 +1,5 @@
+import java.util.Random;
+
 /** The edges of what is best: the first part of 'Terms' 3 and promises 17 to 21. */
 public final class BestEdgeTests extends Edge {
     private BestEdgeTests() {
@@ -19,6 +21,7 @@ public final class BestEdgeTests extends Edge {
         bestCornerOfAll();
         bestCornerNone();
         bestCornerBounds();
+        neverWithoutSets();
         fewestSpades();
         unlikePlaces();
         noSpades();
@@ -302,6 +305,28 @@ public final class BestEdgeTests extends Edge {
             for (int b : NO_BANDS) {
                 due("bestCorner(" + b + ", 0)", x.bestCorner(b, 0), UNKNOWN);
                 due("bestCorner(" + b + ", 3)", x.bestCorner(b, 3), UNKNOWN);
+            }
+        }
+    }
+
+    /** The SET of the lies that were told always MAY LIE, and something that is tried leaves it. */
+    private static void neverWithoutSets() {
+        by("Terms 3", "(0, if none does by any)");
+        String[] texts = {"mark 50 50;mark 20 20;lie 1 0 52 50;lie 4 0 51 50;", "mark 50 50;lie 3 0 51 51;",
+            "within 2;mark 50 50;mark 20 20;lie 0 0 55 50;lie 1 1 20 25;err 4 0 7 11;err 5 0 11 7;err 2 1 8 8;",
+            "within 1;mark 50 50;mark 20 20;lie 5 1 23 20;err 0 0 8 10;err 1 0 10 8;err 2 1 8 8;err 3 1 10 10;"};
+        Random random = new Random(29);
+        for (int turn = 0; turn < 40; turn++) {
+            SixMaps x = told(texts[turn % 4]);
+            for (int i = 0; i < 50; i++) {
+                int b = random.nextInt(6);
+                int c = (b + 1 + random.nextInt(5)) % 6;
+                int k = random.nextInt(x.told(0));
+                int left = x.corner(b, c, k);
+                Check.holds("corner(" + b + ", " + c + ", " + k + ") = " + left, left > 0 || left == NOT);
+                x.show(c, b, k);
+                Check.holds("a SET MAY LIE for BAND " + b, x.may(b, NONE) > 0);
+                x.dig(b, Math.max(0, x.best(b, 0)), Math.max(0, x.best(b, 1)));
             }
         }
     }
