@@ -464,13 +464,15 @@ public final class HuntEdgeTests extends Edge {
         due("island()", x.island(), 9);
         // The dearest calls, too, as often as there may be any; nobody digs, so a HUNT has 360 DRAWS.
         int hunts = 0;
-        for (; calls < 510; calls += 2) {
+        for (; calls < 509; calls += 2) {
             hunts++;
             due("hunt(20)", x.hunt(20), NONE);
             due("bestCorner(5, 2)", x.bestCorner(5, 2) >= NONE ? 1 : 0, 1);
         }
-        due("knows(5, 0), call " + calls, x.knows(5, 0), 511);
-        due("seed(0), call " + (calls + 1), x.seed(0), next(0, 360 * hunts));
+        due("calls so far", calls, 509);
+        due("told(0), call 510", x.told(0), 9);
+        due("knows(5, 0), call 511", x.knows(5, 0), 511);
+        due("seed(0), call 512", x.seed(0), next(0, 360 * hunts));
     }
 
     private static void seedBounds() {
