@@ -31,6 +31,7 @@ public final class BestEdgeTests extends Edge {
         foundNever();
         foundFromItsOwnMap();
         foundByRisingMaps();
+        foundOneAfterTheOther();
         foundBounds();
         Check.spokenOf("Terms 3");
         Check.spokenOfPromises(17, 21);
@@ -52,7 +53,7 @@ public final class BestEdgeTests extends Edge {
     // ---- to dig
 
     private static void ofMostSets() {
-        by("Terms 3", "the PLACE (of those that are the whole AREA of some SET that MAY LIE) which is so of most SETS");
+        by("Terms 3", "TO DIG: the PLACE (of those that are the whole AREA of some SET that MAY LIE) which is so of most SETS");
         // MAP 0 has it at 3 3, MAPS 2 and 3 at 50 50: one of 2 and 3 may lie beside MAP 0 nowhere, so three SETS lead to 50 50, one to 3 3.
         SixMaps x = told("mark 50 50;lie 0 0 3 3;lie 1 0 4 4;");
         x.show(2, 0, 0);
@@ -66,7 +67,7 @@ public final class BestEdgeTests extends Edge {
     }
 
     private static void likePlaces() {
-        by("Terms 3", "of like ones the least X, then the least Y");
+        by("Terms 3", "of like ones the least X, then the least Y; NONE.");
         // Four SETS lead to where MAP 0 has it, four to where MAP 2 does; by rising SETS those of MAP 2 come first.
         int[][] cases = {{60, 10, 50, 50}, {40, 90, 40, 90}, {50, 60, 50, 50}, {50, 40, 50, 40}, {51, 49, 50, 50}, {49, 51, 49, 51}};
         for (int[] c : cases) {
@@ -82,7 +83,7 @@ public final class BestEdgeTests extends Edge {
     }
 
     private static void noPlace() {
-        by("Promise 17", "what = 0 X, 1 Y, 2 of how many SETS it is so, 3 WORTH; NONE (of all).");
+        by("Promise 17", "TO DIG: what = 0 X, 1 Y, 2 of how many SETS it is so, 3 WORTH; NONE (of all).");
         bestIs("no MARKS", new SixMaps(), 0, NONE, NONE, NONE, NONE);
         bestIs("within 1", told("within 1;mark 50 50;"), 0, NONE, NONE, NONE, NONE);
         // One PLACE in X, not in Y; then the other way round.
@@ -118,6 +119,12 @@ public final class BestEdgeTests extends Edge {
         // Ten of fifteen: V times SETS first, then cut.
         due("ten of fifteen", told(mark + "prize 9999;spade 0;").best(2, 3), 6666);
         due("ten of fifteen, V 1", told(mark + "prize 1;spade 0;").best(2, 3), 0);
+        by("Terms", "All numbers are whole; / cuts towards 0.");
+        // What is divided is cut, not what is left when the price is paid: two thirds less 1 is -1, not 0.
+        due("ten of fifteen, V 1, price 1", told(mark + "prize 1;spade 1;").best(2, 3), -1);
+        due("ten of fifteen, V 2, price 1", told(mark + "prize 2;spade 1;").best(2, 3), 0);
+        due("ten of fifteen, V 2, price 2", told(mark + "prize 2;spade 2;").best(2, 3), -1);
+        due("ten of fifteen, V 4, price 9", told(mark + "prize 4;spade 9;").best(2, 3), -7);
     }
 
     private static void bestBounds() {
@@ -206,7 +213,7 @@ public final class BestEdgeTests extends Edge {
     }
 
     private static void cornerBounds() {
-        by("Promise 18", "UNKNOWN (one twice)");
+        by("Promise 18", "A CORNER: how many SETS are left at the worst. UNKNOWN (one twice)");
         SixMaps x = told(NINE + "lie 0 0 50 50;");
         due("corner(0, 5, 8)", x.corner(0, 5, 8), 6);
         due("corner(5, 0, 0)", x.corner(5, 0, 0), 6);
@@ -442,6 +449,39 @@ public final class BestEdgeTests extends Edge {
         // For BAND 0 its own MAP is passed over: the first corner is MAP 1's.
         due("the first BAND lies", told("mark 1 1;mark 2 2;lie 0 0 50 50;").found(0), 3);
         due("the first BAND lies at its second MARK", told("mark 1 1;mark 2 2;lie 0 1 50 50;").found(0), 4);
+    }
+
+    private static void foundOneAfterTheOther() {
+        by("Terms 3", "MAKERS: with lies as told, E, all MARKS: FOUND: how many corners (of MARKS of others' MAPS, by rising MAPS, then MARKS) "
+                + "a BAND must be shown, one after the other, till just one SET MAY LIE for it");
+        String[] texts = {"mark 50 50;", "mark 50 50;lie 3 0 60 60;", "mark 50 50;lie 0 0 60 60;lie 5 0 60 60;",
+            "mark 50 50;mark 20 20;lie 1 0 51 50;lie 4 1 20 21;", "mark 50 50;mark 20 20;mark 30 30;lie 2 2 33 30;lie 3 2 30 33;",
+            "within 1;mark 50 50;mark 20 20;lie 1 0 53 50;lie 4 1 20 23;err 0 0 10 9;err 2 1 8 8;err 5 1 10 10;",
+            "within 3;mark 50 50;mark 20 20;lie 0 0 57 50;err 1 0 12 9;err 2 0 10 6;err 3 0 6 9;err 4 0 12 12;",
+            "within 2;mark 50 50;lie 4 0 55 50;err 2 0 10 9;err 0 0 11 9;err 1 0 10 9;err 3 0 11 9;",
+            "within 9;mark 50 50;mark 20 20;lie 0 0 69 50;lie 1 1 20 39;err 2 0 18 9;err 3 0 0 9;err 5 1 9 18;"};
+        for (String text : texts) {
+            for (int b = 0; b < 6; b++) {
+                SixMaps x = told(text);
+                due(text + " found(" + b + ")", x.found(b), cornersTillOneSet(x, b));
+            }
+        }
+    }
+
+    /** By showing them. */
+    private static int cornersTillOneSet(SixMaps x, int b) {
+        int corners = 0;
+        int marks = x.told(0);
+        for (int m = 0; m < 6; m++) {
+            for (int k = 0; m != b && k < marks; k++) {
+                if (x.may(b, NONE) == 1) {
+                    return corners;
+                }
+                x.show(m, b, k);
+                corners++;
+            }
+        }
+        return x.may(b, NONE) == 1 ? corners : NONE;
     }
 
     private static void foundBounds() {

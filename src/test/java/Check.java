@@ -5,6 +5,7 @@ import java.util.TreeSet;
 final class Check {
     private static int wrong = 0;
     private static int asked = 0;
+    private static boolean quiet = false;
     private static String sentence = "";
     private static final Set<String> PARTS = new TreeSet<>();
 
@@ -14,16 +15,14 @@ final class Check {
     static void due(String call, long got, long want) {
         asked++;
         if (got != want) {
-            wrong++;
-            System.out.println(sentence + call + " answered " + got + ", due is " + want);
+            isWrong(call + " answered " + got + ", due is " + want);
         }
     }
 
     static void holds(String what, boolean so) {
         asked++;
         if (!so) {
-            wrong++;
-            System.out.println(sentence + "does not hold: " + what);
+            isWrong("does not hold: " + what);
         }
     }
 
@@ -52,11 +51,27 @@ final class Check {
         return wrong == 0;
     }
 
+    /** For a test that runs other tests: nothing is printed, and the first wrong answer ends the test, but not the program. */
+    static void stopAtFirstWrong() {
+        quiet = true;
+    }
+
     static void end() {
+        if (quiet) {
+            return;
+        }
         System.out.println(asked + " answers, " + wrong + " not as due");
         if (wrong != 0) {
             System.exit(1);
         }
+    }
+
+    private static void isWrong(String why) {
+        wrong++;
+        if (quiet) {
+            throw new IllegalStateException(sentence + why);
+        }
+        System.out.println(sentence + why);
     }
 
     /** Feeds a text eight bytes at a time; what the last feed answered. */

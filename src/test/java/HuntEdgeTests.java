@@ -116,7 +116,7 @@ public final class HuntEdgeTests extends Edge {
     }
 
     private static void sayingsTrue() {
-        by("Terms 3", "TRUE, if its MAP is one that lies (does not)");
+        by("Terms 3", "SAYINGS: a BAND says that a MAP lies, or not (20 at most): TRUE, if its MAP is one that lies (does not)");
         String[] texts = {"mark 1 1;", "mark 1 1;lie 0 0 9 9;", "mark 1 1;lie 0 0 9 9;lie 5 0 9 9;"};
         int[] liars = {0, 1, 33};
         for (int t = 0; t < 3; t++) {
@@ -139,7 +139,7 @@ public final class HuntEdgeTests extends Edge {
     }
 
     private static void likely() {
-        by("Terms 3", "LIKELY: of SETS that MAY LIE for that BAND how many say so, of all (of a hundred, cut;");
+        by("Terms 3", "LIKELY: of SETS that MAY LIE for that BAND how many say so, of all (of a hundred, cut; NONE without SETS).");
         SixMaps two = told("mark 1 1;lie 0 0 9 9;lie 5 0 8 8;");
         due("five of fifteen", two.saying(two.say(3, 1, true), 1), 33);
         due("ten of fifteen", two.saying(two.say(3, 1, false), 1), 66);
@@ -419,7 +419,7 @@ public final class HuntEdgeTests extends Edge {
     // ---- draws
 
     private static void theSeedAtFirst() {
-        by("Terms 3", "THE SEED (0 at first");
+        by("Terms 3", "A HUNT by draws: THE SEED (0 at first");
         SixMaps x = new SixMaps();
         due("seed(7)", x.seed(7), 0);
         due("seed(7) again", x.seed(7), 7);

@@ -127,6 +127,19 @@ public final class KnownEdgeTests extends Edge {
                 due("leads(0, " + what + ")", x.leads(0, what), OUTSIDE);
             }
         }
+        by("Terms 2", "by a MAP alone: to which its BOXES lead.");
+        // Each MAP by its own errs, whatever the others have and whoever KNOWS them.
+        SixMaps x = told("within 2;" + THREE + "err 1 0 11 7;err 1 2 8 10;err 3 1 9 11;");
+        int[][] ends = {{15, 10}, {10 + 2 + 30 - (25 - 1), 20 - 2 + 50 - (60 + 1)}, {15, 10}, {15, 10 + 2}};
+        for (int m = 0; m < 4; m++) {
+            for (int what = 0; what < 4; what++) {
+                int middle = ends[m][what / 2];
+                due("by errs: leads(" + m + ", " + what + ")", x.leads(m, what), what % 2 == 0 ? middle - 6 : middle + 6);
+            }
+        }
+        showAll(x, 1, 0);
+        due("shown: leads(0, 0)", x.leads(0, 0), 9);
+        due("shown: leads(1, 0)", x.leads(1, 0), 12);
     }
 
     private static void leadsWithoutMarks() {
@@ -341,18 +354,22 @@ public final class KnownEdgeTests extends Edge {
     }
 
     private static void digNot() {
-        by("Promise 12", "NOT: it was found already, no MARKS;");
+        by("Promise 12", "UNKNOWN, OUTSIDE, NOT: it was found already, no MARKS;");
         SixMaps x = told("mark 50 50;");
         x.dig(0, 50, 50);
         due("found: dig there", x.dig(0, 50, 50), NOT);
         due("found: dig by another", x.dig(1, 50, 50), NOT);
         due("found: dig elsewhere", x.dig(1, 1, 1), NOT);
+        due("found: dig outside", x.dig(1, 100, 1), OUTSIDE);
+        due("found: dig by nobody", x.dig(6, 100, 1), UNKNOWN);
         due("found: purse(0)", x.purse(0), 90);
         due("found: purse(1)", x.purse(1), 0);
         due("found: told(9)", x.told(9), 0);
         due("found: told(11)", x.told(11), 0);
         for (SixMaps none : new SixMaps[] {new SixMaps(), told("prize 1;")}) {
             due("no MARKS: dig(0, 0, 0)", none.dig(0, 0, 0), NOT);
+            due("no MARKS: dig(0, 0, -1)", none.dig(0, 0, -1), OUTSIDE);
+            due("no MARKS: dig(-1, 0, -1)", none.dig(-1, 0, -1), UNKNOWN);
             due("no MARKS: purse(0)", none.purse(0), 0);
             due("no MARKS: told(9)", none.told(9), 0);
             due("no MARKS: told(11)", none.told(11), NONE);
@@ -434,7 +451,7 @@ public final class KnownEdgeTests extends Edge {
     }
 
     private static void placesWithinAll() {
-        by("Terms 2", "those within all KNOWN BOXES of it on MAPS that are not of the SET");
+        by("Terms 2", "PLACES left of a MARK, by a SET: those within all KNOWN BOXES of it on MAPS that are not of the SET");
         // MAP 0 has 46 to 54, MAP 1 50 to 58, MAP 2 42 to 50; in Y all have 46 to 54.
         SixMaps x = told("within 4;mark 50 50;lie 5 0 90 90;err 1 0 13 9;err 2 0 5 9;");
         placesAre("MAP 0 alone", x, 32, 46, 54);
@@ -636,6 +653,7 @@ public final class KnownEdgeTests extends Edge {
     }
 
     private static void spadesFellOnePlace() {
+        by("Terms 2", "and no SPADE fells it.");
         by("Terms 2", "they fell SETS by which PLACES left of A, B, C are one PLACE each and lead there.");
         // BAND 0 lies at MARK 0: by the SET of MAP 1 it is at 50 and 30 less 25.
         SixMaps x = told(THREE + "lie 0 0 50 50;");
@@ -698,7 +716,7 @@ public final class KnownEdgeTests extends Edge {
     }
 
     private static void areaByPlaces() {
-        by("Terms 2", "from the least to the greatest X, Y to which PLACES left of A, B, C lead");
+        by("Terms 2", "AREA by a SET: from the least to the greatest X, Y to which PLACES left of A, B, C lead");
         // By MAPS 0 and 1 MARK 0 is at 50 to 52 and 48 to 50, MARK 1 at 18 to 22, MARK 2 at 28 to 32.
         SixMaps x = told("within 2;mark 50 50;mark 20 20;mark 30 30;goal 0 1 2;lie 5 0 90 90;err 1 0 11 7;");
         int[] own = {48 + 18 - 32, 52 + 22 - 28, 48 + 18 - 32, 52 + 22 - 28};
@@ -723,7 +741,7 @@ public final class KnownEdgeTests extends Edge {
         due("no lies", told(NINE).may(5, NONE), 1);
         due("one lie", told(NINE + "lie 0 0 50 50;").may(5, NONE), 6);
         due("two lies", told(NINE + "lie 0 0 50 50;lie 1 0 50 50;").may(5, NONE), 15);
-        by("Terms 2", "SETS of as many MAPS as there are LIARS, for what a BAND KNOWS.");
+        by("Terms 2", "MAY LIE: SETS of as many MAPS as there are LIARS, for what a BAND KNOWS.");
         setsAre("no lies", told(NINE), 5, 0);
         setsAre("one lie", told(NINE + "lie 0 0 50 50;"), 5, 1, 2, 4, 8, 16, 32);
         setsAre("two lies", told(NINE + "lie 0 0 50 50;lie 1 0 50 50;"), 5, 3, 5, 6, 9, 10, 12, 17, 18, 20, 24, 33, 34, 36, 40, 48);

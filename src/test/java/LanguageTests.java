@@ -1,26 +1,13 @@
 import java.lang.management.ManagementFactory;
-import java.lang.reflect.Constructor;
-import java.lang.reflect.Field;
 import java.lang.reflect.Method;
 import java.lang.reflect.Modifier;
 import java.nio.file.Files;
 import java.nio.file.Path;
-import java.util.ArrayList;
-import java.util.Arrays;
-import java.util.List;
-import java.util.Set;
-import java.util.TreeSet;
 import java.util.regex.Matcher;
 import java.util.regex.Pattern;
 
-/** The class keeps to its face and to its part of Java, makes nothing in its calls, and never throws. Takes the source's path. */
+/** The class keeps to its part of Java, makes nothing in its calls, and never throws. Takes the source's path. */
 public final class LanguageTests {
-    private static final String[] FACE = {
-        "feed(int,long)", "island()", "fault()", "told(int)", "mark(int,int)", "map(int,int,int)", "leads(int,int)",
-        "knows(int,int)", "show(int,int,int)", "trade(int,int,int,int)", "dig(int,int,int)", "purse(int)", "may(int,int)",
-        "sure(int,int)", "area(int,int,int)", "best(int,int)", "corner(int,int,int)", "bestCorner(int,int)", "spades(int)",
-        "found(int)", "say(int,int,boolean)", "forget()", "saying(int,int)", "loudest()", "hunt(int)", "seed(int)",
-        "keep(int)", "goBack(int)"};
     private static final int[] EXTREMES = {Integer.MIN_VALUE, -1000001, -64, -2, -1, 0, 1, 2, 5, 6, 8, 9, 20, 63, 64, 100, Integer.MAX_VALUE};
     private static final String[] STATES = {
         "", "mark 5 5;", "within 9;mark 0 0;mark 99 99;goal 1 1 0;lie 5 0 99 99;err 4 0 0 18;", "mark 1 1;lie 0 0 2 2;lie 3 0 4 4;",
@@ -30,56 +17,10 @@ public final class LanguageTests {
     }
 
     public static void main(String[] args) throws Exception {
-        face();
         source(Files.readString(Path.of(args.length > 0 ? args[0] : "src/main/java/SixMaps.java")));
         neverThrows();
         makesNothing();
         Check.end();
-    }
-
-    private static void face() {
-        Set<String> seen = new TreeSet<>();
-        for (Method m : SixMaps.class.getDeclaredMethods()) {
-            if (!Modifier.isPrivate(m.getModifiers()) && !m.isSynthetic()) {
-                List<String> types = new ArrayList<>();
-                for (Class<?> type : m.getParameterTypes()) {
-                    types.add(type.getName());
-                }
-                seen.add(m.getName() + "(" + String.join(",", types) + ")");
-                Check.holds(m + " is public, of an object, and answers an int",
-                        Modifier.isPublic(m.getModifiers()) && !Modifier.isStatic(m.getModifiers()) && m.getReturnType() == int.class);
-            }
-        }
-        Check.holds("the face is " + seen, seen.equals(new TreeSet<>(Arrays.asList(FACE))));
-        Set<String> open = new TreeSet<>();
-        for (Field f : SixMaps.class.getDeclaredFields()) {
-            if (!Modifier.isPrivate(f.getModifiers())) {
-                open.add(f.getName());
-            }
-            Check.holds(f + " is final, if it is static", !Modifier.isStatic(f.getModifiers()) || Modifier.isFinal(f.getModifiers()));
-        }
-        Check.holds("the constants are " + open, open.equals(Set.of("NONE", "UNKNOWN", "OUTSIDE", "NOT", "FULL")));
-        Constructor<?>[] made = SixMaps.class.getDeclaredConstructors();
-        Check.holds("one constructor", made.length == 1 && made[0].getParameterCount() == 0 && Modifier.isPublic(made[0].getModifiers()));
-        Check.holds("final", Modifier.isFinal(SixMaps.class.getModifiers()));
-        Check.holds("some twelve classes", SixMaps.class.getDeclaredClasses().length <= 11);
-        for (Class<?> inside : SixMaps.class.getDeclaredClasses()) {
-            inside(inside);
-        }
-    }
-
-    private static void inside(Class<?> inside) {
-        Check.holds(inside + " is static", Modifier.isStatic(inside.getModifiers()));
-        int fields = 0;
-        for (Field f : inside.getDeclaredFields()) {
-            boolean isStatic = Modifier.isStatic(f.getModifiers());
-            Check.holds(f + " is final, if it is static", !isStatic || Modifier.isFinal(f.getModifiers()));
-            fields += isStatic ? 0 : 1;
-        }
-        Check.holds(inside + " has some twenty fields", fields <= 20);
-        for (Method m : inside.getDeclaredMethods()) {
-            Check.holds(m + " bears no name of the face", Arrays.stream(FACE).noneMatch(f -> f.startsWith(m.getName() + "(")));
-        }
     }
 
     private static void source(String source) {

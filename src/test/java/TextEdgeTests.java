@@ -150,7 +150,7 @@ public final class TextEdgeTests extends Edge {
     // ---- the clauses
 
     private static void textOf400() {
-        by("Terms 1", "is told in a text (400 bytes at most)");
+        by("Terms 1", "THE ISLAND is told in a text (400 bytes at most): clauses:");
         SixMaps x = fine("mark 1 2;" + blanks(383) + "prize 7;", 1);
         due("told(7)", x.told(7), 7);
         fault(blanks(399) + "^;", 1);
@@ -725,7 +725,7 @@ public final class TextEdgeTests extends Edge {
     }
 
     private static void toldAll() {
-        by("Promise 5", "0 MARKS, 1 LIARS, 2 E, 3 to 5 A, B, C, 6 price of a spade, 7 V, 8 bytes of THE TEXT, 9 SPADES, 10 SAYINGS, "
+        by("Promise 5", "How many: 0 MARKS, 1 LIARS, 2 E, 3 to 5 A, B, C, 6 price of a spade, 7 V, 8 bytes of THE TEXT, 9 SPADES, 10 SAYINGS, "
                 + "11 the BAND that found it (NONE). OUTSIDE.");
         String all = "goal 8 7 6;lie 0 0 50 50;lie 5 8 50 50;spade 999;prize 9999;";
         SixMaps x = fine("within 9;" + NINE + all, 9);
