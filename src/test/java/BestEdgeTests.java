@@ -14,6 +14,7 @@ public final class BestEdgeTests extends Edge {
         cornerAtTheWorst();
         cornerTried();
         cornerWithE();
+        cornerOfAllPlaces();
         cornerBounds();
         cornerNot();
         bestCornerFewest();
@@ -210,6 +211,19 @@ public final class BestEdgeTests extends Edge {
         y.show(2, 0, 0);
         due("may(0, NONE), MAP 2 is KNOWN", y.may(0, NONE), 6);
         due("corner(0, 1, 0), MAP 2 is KNOWN", y.corner(0, 1, 0), 4);
+    }
+
+    /** All places are left, so a BOX far off has some of them: it is a QUARREL, but not OFF. A choice: NOTES.md. */
+    private static void cornerOfAllPlaces() {
+        by("Terms 2", "(all places, if none of these is KNOWN)");
+        SixMaps x = told("mark 50 50;mark 20 20;lie 0 0 60 60;lie 2 1 30 30;");
+        x.show(2, 0, 1);
+        x.dig(3, 60, 60);
+        // As MAP 0 has it, all but the SET of 0 and 1 lead to the SPADE; far off that of 0 and 2 is left beside it.
+        due("corner(0, 1, 0)", x.corner(0, 1, 0), 2);
+        due("corner(0, 2, 0)", x.corner(0, 2, 0), 1);
+        due("bestCorner(0, 0)", x.bestCorner(0, 0), 2);
+        due("bestCorner(0, 2)", x.bestCorner(0, 2), 1);
     }
 
     private static void cornerBounds() {

@@ -4,7 +4,7 @@ import java.util.Random;
 
 /** Long runs of drawn calls, SixMaps held against Model. The draws start from fixed numbers, so every run is the same. */
 public final class ModelTests {
-    private static final int RUNS = 700, CALLS = 120, TEXTS = 60000;
+    private static final int RUNS = 700, CALLS = 120, TEXTS = 60000, CORNERS = 2000;
 
     private final Random random;
     private final SixMaps maps = new SixMaps();
@@ -21,6 +21,9 @@ public final class ModelTests {
         }
         for (int i = 0; i < RUNS && Check.isClean(); i++) {
             new ModelTests(1000000 + i).run();
+        }
+        for (int i = 0; i < CORNERS && Check.isClean(); i++) {
+            new ModelTests(2000000 + i).runOfCorners();
         }
         Check.end();
     }
@@ -272,6 +275,38 @@ public final class ModelTests {
         }
         if (upTo(30) == 0) {
             tell(drawText(false));
+        }
+    }
+
+    /** Few MARKS, two liars, little shown, and SPADES where MAPS lead: there a corner that is far off is often the worst. */
+    private void runOfCorners() {
+        int e = upTo(3) == 0 ? 1 + upTo(2) : 0;
+        int marks = 1 + upTo(3);
+        StringBuilder text = new StringBuilder("within " + e + ";");
+        for (int k = 0; k < marks; k++) {
+            text.append("mark ").append(50 + 10 * k).append(" 50;");
+        }
+        int liar = upTo(6);
+        int other = (liar + 1 + upTo(5)) % 6;
+        for (int m : new int[] {liar, other}) {
+            int k = upTo(marks);
+            text.append("lie ").append(m).append(' ').append(k).append(' ').append(51 + 10 * k + 2 * e).append(" 50;");
+        }
+        tell(text.toString());
+        int b = upTo(2) == 0 ? liar : upTo(6);
+        for (int i = 1 + upTo(3); i > 0; i--) {
+            int a = upTo(2) == 0 ? other : upTo(6);
+            int k = upTo(marks);
+            same("show(" + a + ", " + b + ", " + k + ")", maps.show(a, b, k), model.show(a, b, k));
+        }
+        for (int i = upTo(3); i > 0; i--) {
+            int m = i == 1 ? b : upTo(6);
+            int x = (model.leads(m, 0) + model.leads(m, 1)) / 2;
+            same("dig(0, " + x + ", 50)", maps.dig(0, x, 50), model.dig(0, x, 50));
+        }
+        for (int i = 0; i < 6 * marks; i++) {
+            String corner = "corner(" + b + ", " + i / marks + ", " + i % marks + ")";
+            same(corner, maps.corner(b, i / marks, i % marks), model.corner(b, i / marks, i % marks));
         }
     }
 
