@@ -3,6 +3,9 @@ import java.lang.reflect.Method;
 import java.lang.reflect.Modifier;
 import java.nio.file.Files;
 import java.nio.file.Path;
+import java.util.Arrays;
+import java.util.Map;
+import java.util.TreeMap;
 import java.util.regex.Matcher;
 import java.util.regex.Pattern;
 
@@ -43,17 +46,36 @@ public final class LanguageTests {
 
     /** A method ends at the first line that closes at the depth at which it opened. */
     private static void methods(String[] lines) {
+        Map<String, String> bodies = new TreeMap<>();
         for (int i = 0; i < lines.length; i++) {
-            Matcher m = Pattern.compile("^(\\s+)[a-zA-Z\\[\\] ]+\\(([^)]*)\\) \\{$").matcher(lines[i]);
+            Matcher m = Pattern.compile("^(\\s+)[a-zA-Z\\[\\] ]+ (\\w+)\\(([^)]*)\\) \\{$").matcher(lines[i]);
             if (m.find() && !lines[i].matches("\\s*(}? ?else )?(if|for|while|switch).*")) {
                 int end = i;
                 while (end < lines.length && !lines[end].equals(m.group(1) + "}")) {
                     end++;
                 }
                 Check.holds("short: " + lines[i].trim(), end - i < 60);
-                Check.holds("at most seven parameters: " + lines[i].trim(), m.group(2).split(",").length <= 7);
+                Check.holds("at most seven parameters: " + lines[i].trim(), m.group(3).split(",").length <= 7);
+                String body = String.join("\n", Arrays.asList(lines).subList(i + 1, end));
+                bodies.merge(m.group(2), body, (a, b) -> a + "\n" + b);
             }
         }
+        for (String name : bodies.keySet()) {
+            Check.holds(name + "() goes at most eight deep", depth(name, bodies, 1) <= 8);
+        }
+    }
+
+    /** Methods of one name are taken as one; a call of the library is one deep. Recursion would be deeper than any bound. */
+    private static int depth(String name, Map<String, String> bodies, int at) {
+        if (at > 20 || !bodies.containsKey(name)) {
+            return 1;
+        }
+        int deepest = 0;
+        Matcher call = Pattern.compile("\\b([a-z]\\w*)\\(").matcher(bodies.get(name));
+        while (call.find()) {
+            deepest = Math.max(deepest, depth(call.group(1), bodies, at + 1));
+        }
+        return 1 + deepest;
     }
 
     private static void neverThrows() throws Exception {
