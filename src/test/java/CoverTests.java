@@ -11,7 +11,7 @@ import java.util.TreeMap;
 import java.util.regex.Matcher;
 import java.util.regex.Pattern;
 
-/** Every word of the document, from its first line to its last, is quoted by a test: by("Promise 2", "OUTSIDE, FULL (400)."). */
+/** Every word of 'Terms' and of the promises is quoted by a test: by("Promise 2", "OUTSIDE, FULL (400)."); what is asked there it cannot see. */
 public final class CoverTests {
     private static final Path TESTS = Path.of("src/test/java");
     private static final Pattern QUOTE = Pattern.compile("\\bby\\(\"([^\"]*)\",\\s*((?:\"[^\"]*\"[\\s+]*)+)\\)");
